@@ -174,14 +174,6 @@ public final class TemplateCaller {
             return c == ' ' || c == '\t';
         }
 
-        static boolean isHigh(char c) {
-            return c >= 55296 && c <= 56319;
-        }
-
-        static boolean isLow(char c) {
-            return c >= 56320 && c <= 57343;
-        }
-
         static char toSmall(char c) {
             return c >= 'A' && c <= 'Z' ? (char) (c - 'A' + 'a') : c;
         }
@@ -204,6 +196,10 @@ public final class TemplateCaller {
 
     private static final class Item {
         private static final int MOST_CHARS = 8;
+        // The high chars go from the first high one up to the first low one.
+        private static final int FIRST_HIGH = 55296;
+        private static final int FIRST_LOW = 56320;
+        private static final int LAST_LOW = 57343;
 
         private final char[] chars = new char[MOST_CHARS];
         private int size = 0;
@@ -223,7 +219,9 @@ public final class TemplateCaller {
         }
 
         boolean isPair(int i) {
-            return i >= 0 && i + 1 < size && Chars.isHigh(chars[i]) && Chars.isLow(chars[i + 1]);
+            return i >= 0 && i + 1 < size
+                && chars[i] >= FIRST_HIGH && chars[i] < FIRST_LOW
+                && chars[i + 1] >= FIRST_LOW && chars[i + 1] <= LAST_LOW;
         }
 
         /** The number that stands for the character that begins at i. */
@@ -231,7 +229,7 @@ public final class TemplateCaller {
             if (!isPair(i)) {
                 return at(i);
             }
-            return 65536 + 1024 * (at(i) - 55296) + (at(i + 1) - 56320);
+            return 65536 + 1024 * (at(i) - FIRST_HIGH) + (at(i + 1) - FIRST_LOW);
         }
 
         /** The index behind the first characters, so many of them or all. */
@@ -245,7 +243,7 @@ public final class TemplateCaller {
 
         boolean hasLone() {
             for (int i = 0; i < size; i += isPair(i) ? 2 : 1) {
-                if (!isPair(i) && (Chars.isHigh(at(i)) || Chars.isLow(at(i)))) {
+                if (!isPair(i) && at(i) >= FIRST_HIGH && at(i) <= LAST_LOW) {
                     return true;
                 }
             }
@@ -653,9 +651,8 @@ public final class TemplateCaller {
         static final int LOOSE = 1;
         static final int FORM = 2;
 
-        static void putEncoded(ByteRow out, Item item, int characters, int manner) {
-            // The cut comes first: a % whose digits are cut off is no escape any more.
-            int end = item.endOf(characters);
+        /** Puts the item's chars before end, as if it had no others. */
+        static void putEncoded(ByteRow out, Item item, int end, int manner) {
             for (int i = 0; i < end; i += item.isPair(i) ? 2 : 1) {
                 char c = item.at(i);
                 if (Chars.isUnreserved(c)) {
@@ -697,19 +694,18 @@ public final class TemplateCaller {
         /** Byte n of the count bytes that the code has in UTF-8. */
         private static int utf8Byte(int code, int n, int count) {
             int bits = code >> 6 * (count - 1 - n);
-            return n == 0 ? utf8Lead(count) + bits : 128 + (bits & 63);
-        }
-
-        private static int utf8Lead(int count) {
+            if (n > 0) {
+                return 128 + (bits & 63);
+            }
             switch (count) {
                 case 1:
-                    return 0;
+                    return bits;
                 case 2:
-                    return 192;
+                    return 192 + bits;
                 case 3:
-                    return 224;
+                    return 224 + bits;
                 default:
-                    return 240;
+                    return 240 + bits;
             }
         }
     }
@@ -790,6 +786,7 @@ public final class TemplateCaller {
             boolean spread = path.isSpread(variable);
             boolean named = operator == ';' || operator == '?' || operator == '&';
             int manner = operator == '+' ? Encoder.LOOSE : Encoder.PLAIN;
+            int characters = path.charactersFor(variable);
             for (int i = 0; i < parameter.count; i++) {
                 Item item = parameter.items[i];
                 if (i > 0) {
@@ -802,20 +799,27 @@ public final class TemplateCaller {
                         out.put('=');
                     }
                 }
-                Encoder.putEncoded(out, item, path.charactersFor(variable), manner);
+                Encoder.putEncoded(out, item, item.endOf(characters), manner);
             }
         }
 
         private void putQuery(ByteRow out) {
             for (int k = 0; k < declaration.count; k++) {
                 Parameter parameter = declaration.parameters[k];
-                for (int i = 0; parameter.kind == Parameter.QUERY && i < parameter.count; i++) {
-                    // What stands before the target has no question mark.
-                    out.put(out.has('?') ? '&' : '?');
-                    out.put(parameter.letter);
-                    out.put('=');
-                    Encoder.putEncoded(out, parameter.items[i], Item.MOST_CHARS, Encoder.PLAIN);
+                if (parameter.kind == Parameter.QUERY) {
+                    putQueryItems(out, parameter);
                 }
+            }
+        }
+
+        private static void putQueryItems(ByteRow out, Parameter parameter) {
+            for (int i = 0; i < parameter.count; i++) {
+                Item item = parameter.items[i];
+                // What stands before the target has no question mark.
+                out.put(out.has('?') ? '&' : '?');
+                out.put(parameter.letter);
+                out.put('=');
+                Encoder.putEncoded(out, item, item.size, Encoder.PLAIN);
             }
         }
 
@@ -849,22 +853,27 @@ public final class TemplateCaller {
         }
 
         private void putBodyOrForm(ByteRow out) {
-            boolean first = true;
+            int fieldItems = 0;
             for (int k = 0; k < declaration.count; k++) {
                 Parameter parameter = declaration.parameters[k];
-                for (int i = 0; i < parameter.count; i++) {
-                    if (parameter.kind == Parameter.BODY) {
-                        Encoder.putUtf8(out, parameter.items[i]);
-                    } else if (parameter.kind == Parameter.FIELD) {
-                        if (!first) {
-                            out.put('&');
-                        }
-                        first = false;
-                        out.put(parameter.letter);
-                        out.put('=');
-                        Encoder.putEncoded(out, parameter.items[i], Item.MOST_CHARS, Encoder.FORM);
-                    }
+                if (parameter.kind == Parameter.BODY && parameter.count > 0) {
+                    Encoder.putUtf8(out, parameter.items[0]);
+                } else if (parameter.kind == Parameter.FIELD) {
+                    putFormItems(out, parameter, fieldItems);
+                    fieldItems += parameter.count;
                 }
+            }
+        }
+
+        private static void putFormItems(ByteRow out, Parameter parameter, int itemsBefore) {
+            for (int i = 0; i < parameter.count; i++) {
+                Item item = parameter.items[i];
+                if (itemsBefore + i > 0) {
+                    out.put('&');
+                }
+                out.put(parameter.letter);
+                out.put('=');
+                Encoder.putEncoded(out, item, item.size, Encoder.FORM);
             }
         }
     }
