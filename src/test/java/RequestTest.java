@@ -188,6 +188,7 @@ public final class RequestTest {
         due("%2F", expanded("/{+a}", "%2F"), "/%2F");
         due("%aF at the end", expanded("/{+a}", "xyz%aF"), "/xyz%aF");
         due("%fA", expanded("/{+a}", "%fA%90"), "/%fA%90");
+        due("%0A", expanded("/{+a}", "%0A%00"), "/%0A%00");
         due("%gA", expanded("/{+a}", "%gA"), "/%25gA");
         due("%AG", expanded("/{+a}", "%AG"), "/%25AG");
         due("%@1", expanded("/{+a}", "%@1%:1"), "/%25@1%25:1");
@@ -274,7 +275,8 @@ public final class RequestTest {
 
     private static void faults() {
         String[] lone = {"\ud800", "\udc00", "\udbff", "\udfff", "a\ud800", "\ud800a", "\ud800\ud800\udc00",
-            "\ud800\udc00\udc00", "\udc00\ud800", "\ud800\udc00\ud800", "abcdefg\ud800"};
+            "\ud800\udc00\udc00", "\udc00\ud800", "\ud800\udc00\ud800", "abcdefg\ud800", "\udc00\udc00",
+            "\ud800\ue000", "\ud7ff\udc00"};
         for (int kind = 0; kind < 6; kind++) {
             for (String item : lone) {
                 TemplateCaller x = Calls.declared(Calls.POST, kind < 2 ? "/{a}" : "/");
