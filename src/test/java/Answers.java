@@ -1,6 +1,7 @@
 /** Compares answers with those that are due, and ends the program with 1 if one was wrong. */
 final class Answers {
     private final String test;
+    private String sentence = "";
     private int compared = 0;
     private int wrong = 0;
 
@@ -8,11 +9,16 @@ final class Answers {
         this.test = test;
     }
 
+    /** The words of the document that the answers from now on belong to. */
+    void sentence(String words) {
+        sentence = " [" + words + "]";
+    }
+
     void due(String what, Object got, Object want) {
         compared++;
         if (!want.equals(got)) {
             wrong++;
-            System.out.println(test + ": " + what + " answered <" + got + ">, due is <" + want + ">");
+            System.out.println(test + sentence + ": " + what + " answered <" + got + ">, due is <" + want + ">");
         }
     }
 

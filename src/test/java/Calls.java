@@ -49,8 +49,10 @@ final class Calls {
     /** The request made last, a byte a char. */
     static String sentText(TemplateCaller x) {
         StringBuilder text = new StringBuilder();
-        for (int i = 0; i <= 1000 && x.sent(i) >= 0; i++) {
-            text.append((char) x.sent(i));
+        int b = x.sent(0);
+        while (b >= 0) {
+            text.append((char) b);
+            b = x.sent(text.length());
         }
         return text.toString();
     }
@@ -83,7 +85,8 @@ final class Calls {
 
     static String contentText(TemplateCaller x) {
         StringBuilder text = new StringBuilder();
-        for (int i = 0; i < x.length(); i++) {
+        int length = x.length();
+        for (int i = 0; i < length; i++) {
             text.append((char) x.content(i));
         }
         return text.toString();

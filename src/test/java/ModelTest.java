@@ -47,6 +47,7 @@ public final class ModelTest {
         ANSWERS.due("run " + run + ", call " + calls + ": " + call, got, want);
     }
 
+    /** Whether there is still room for the calls of one step; beyond the last call, answers are free. */
     private boolean goesOn() {
         return calls < MOST_CALLS - 12;
     }
@@ -85,11 +86,10 @@ public final class ModelTest {
         for (int n = below(9); n > 0; n--) {
             addItem(below(6));
         }
-        due("check()", x.check(), requests.check());
         send();
         for (int n = 0; n < 3; n++) {
             addItem(below(6));
-            due("empty", x.empty(n), emptyModel(n));
+            empty(n);
             send();
         }
     }
@@ -101,10 +101,7 @@ public final class ModelTest {
                 case 1 -> addTemplate(String.valueOf((char) (once(4) ? below(200) : 33 + below(94))));
                 case 2 -> parameter(below(8) - 1, (char) ('a' + below(28) - 1));
                 case 3 -> addItem(below(8) - 1);
-                case 4 -> {
-                    int k = below(8) - 1;
-                    due("empty", x.empty(k), emptyModel(k));
-                }
+                case 4 -> empty(below(8) - 1);
                 case 5 -> send();
                 default -> feed(below(258) - 1);
             }
@@ -112,6 +109,9 @@ public final class ModelTest {
     }
 
     private void declare(int verb) {
+        if (!goesOn()) {
+            return;
+        }
         boolean right = verb >= 0 && verb <= 4;
         due("declare(" + verb + ")", x.declare(verb), right);
         if (right) {
@@ -122,7 +122,8 @@ public final class ModelTest {
     }
 
     private void addTemplate(String text) {
-        for (char c : text.toCharArray()) {
+        for (int i = 0; i < text.length() && goesOn(); i++) {
+            char c = text.charAt(i);
             boolean right = c >= 33 && c <= 126 && requests.template.length() < 40;
             due("template(" + c + ")", x.template(c), right);
             if (right) {
@@ -132,6 +133,9 @@ public final class ModelTest {
     }
 
     private void parameter(int kind, char letter) {
+        if (!goesOn()) {
+            return;
+        }
         int want = requests.parameters.size();
         if (kind < 0 || kind > 5 || letter < 'a' || letter > 'z') {
             want = TemplateCaller.BAD;
@@ -144,9 +148,13 @@ public final class ModelTest {
     }
 
     private void addItem(int k) {
+        if (!goesOn()) {
+            return;
+        }
         due("item(" + k + ")", x.item(k), itemModel(k));
         String chars = itemChars(k);
-        for (char c : chars.toCharArray()) {
+        for (int i = 0; i < chars.length() && goesOn(); i++) {
+            char c = chars.charAt(i);
             due("write(" + k + ", " + (int) c + ")", x.write(k, c), writeModel(k, c));
         }
     }
@@ -188,6 +196,12 @@ public final class ModelTest {
         return last.length() < 8 && last.append(c) != null;
     }
 
+    private void empty(int k) {
+        if (goesOn()) {
+            due("empty(" + k + ")", x.empty(k), emptyModel(k));
+        }
+    }
+
     private boolean emptyModel(int k) {
         if (k < 0 || k >= requests.parameters.size()) {
             return false;
@@ -197,6 +211,10 @@ public final class ModelTest {
     }
 
     private void send() {
+        if (!goesOn()) {
+            return;
+        }
+        due("check()", x.check(), requests.check());
         due("send()", x.send(), requests.send());
         int step = 1 + requests.request.length() / 60;
         for (int i = below(step); i < requests.request.length() && goesOn(); i += step) {
@@ -207,6 +225,7 @@ public final class ModelTest {
 
     private void respond() {
         if (!once(5)) {
+            calls++;
             x.reset();
             responses.reset();
         }
@@ -217,7 +236,7 @@ public final class ModelTest {
                 declare(below(5));
             }
         }
-        if (once(2)) {
+        if (once(2) && goesOn()) {
             responses.close();
             due("close()", x.close(), responses.state);
         }
@@ -250,6 +269,9 @@ public final class ModelTest {
     }
 
     private void feed(int b) {
+        if (!goesOn()) {
+            return;
+        }
         if (b < 0 || b > 255) {
             due("feed(" + b + ")", x.feed(b), TemplateCaller.BAD);
         } else {

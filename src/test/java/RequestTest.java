@@ -365,6 +365,9 @@ public final class RequestTest {
         x.write(1, '\udfff');
         due("LONE", x.send(), TemplateCaller.LONE);
         due("the request stays after LONE", Calls.sentText(x), made);
+        x = Calls.declared(Calls.GET, "/");
+        x.send();
+        made = Calls.sentText(x);
         x.parameter(Calls.BODY, 'b');
         due("NOBODY", x.send(), TemplateCaller.NOBODY);
         due("the request stays after NOBODY", Calls.sentText(x), made);
